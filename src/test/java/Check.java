@@ -8,8 +8,15 @@ final class Check {
     void same(String what, long got, long want) {
         done++;
         if (got != want) {
-            wrong++;
-            System.out.println(what + " answered " + got + ", due is " + want);
+            tell(what + " answered " + got + ", due is " + want);
+        }
+    }
+
+    /** The first ones are enough to see what is wrong. */
+    private void tell(String fault) {
+        wrong++;
+        if (wrong <= 50) {
+            System.out.println(fault);
         }
     }
 
@@ -31,8 +38,7 @@ final class Check {
             thrown = e.getClass();
         }
         if (thrown != due) {
-            wrong++;
-            System.out.println(what + " threw " + thrown + ", due is " + due);
+            tell(what + " threw " + thrown + ", due is " + due);
         }
     }
 
