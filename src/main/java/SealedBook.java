@@ -27,7 +27,6 @@ public final class SealedBook {
     private final History history;
     private final Transaction transaction;
     private final Row row;
-    private final Bytes latest;
     private final Prover prover;
     private final Verifier verifier;
 
@@ -36,8 +35,7 @@ public final class SealedBook {
         history = new History();
         transaction = new Transaction();
         row = new Row();
-        latest = new Bytes();
-        prover = new Prover(history, latest);
+        prover = new Prover();
         verifier = new Verifier();
     }
 
@@ -123,18 +121,18 @@ public final class SealedBook {
     public int prove(int n, int v, int key) throws IllegalArgumentException {
         require(n <= history.size && v >= 0 && v < n);
         requireKey(key);
-        prover.makeProof(n, v, key);
-        return latest.size;
+        prover.makeProof(history, n, v, key);
+        return prover.bytes.size;
     }
 
     public int proveGrowth(int m, int n) throws IllegalArgumentException {
         require(m > 0 && m < n && n <= history.size);
-        prover.makeGrowth(m, n);
-        return latest.size;
+        prover.makeGrowth(history, m, n);
+        return prover.bytes.size;
     }
 
     public int proof(int i) {
-        return latest.at(i);
+        return prover.bytes.at(i);
     }
 
     public boolean take(int word, int n) {
@@ -146,7 +144,7 @@ public final class SealedBook {
     }
 
     public int carry(int i, int mask) {
-        verifier.bytes.become(latest);
+        verifier.bytes.become(prover.bytes);
         verifier.bytes.flip(i, mask);
         return verifier.bytes.size;
     }
@@ -511,71 +509,66 @@ public final class SealedBook {
     }
 
     private static final class Prover {
-        private final History history;
-        private final Bytes out;
+        /** The latest proof. */
+        final Bytes bytes = new Bytes();
 
-        Prover(History history, Bytes out) {
-            this.history = history;
-            this.out = out;
-        }
-
-        void makeProof(int n, int v, int key) {
-            out.clear();
-            out.appendByte(0);
-            addWay(0, n, v);
-            out.countInts();
+        void makeProof(History history, int n, int v, int key) {
+            bytes.clear();
+            bytes.appendByte(0);
+            addWay(history, 0, n, v);
+            bytes.countInts();
             Chunk top = history.tops[v];
-            out.appendByte(top == null ? 0 : top.level + 1);
+            bytes.appendByte(top == null ? 0 : top.level + 1);
             for (Chunk chunk = top; chunk != null; chunk = chunk.under(key)) {
                 addChunk(chunk);
             }
         }
 
-        void makeGrowth(int m, int n) {
-            out.clear();
-            out.appendByte(0);
-            addPart(0, n, m);
-            out.countInts();
+        void makeGrowth(History history, int m, int n) {
+            bytes.clear();
+            bytes.appendByte(0);
+            addPart(history, 0, n, m);
+            bytes.countInts();
         }
 
-        private void addWay(int from, int count, int v) {
+        private void addWay(History history, int from, int count, int v) {
             if (count < 2) {
                 return;
             }
             int half = half(count);
             int middle = from + half;
             if (v < middle) {
-                addWay(from, half, v);
-                out.appendInt(history.seal(middle, count - half));
+                addWay(history, from, half, v);
+                bytes.appendInt(history.seal(middle, count - half));
             } else {
-                addWay(middle, count - half, v);
-                out.appendInt(history.seal(from, half));
+                addWay(history, middle, count - half, v);
+                bytes.appendInt(history.seal(from, half));
             }
         }
 
         private void addChunk(Chunk chunk) {
-            out.appendByte(chunk.keys.length);
+            bytes.appendByte(chunk.keys.length);
             for (int i = 0; i < chunk.keys.length; i++) {
-                out.appendByte(chunk.keys[i]);
-                out.appendInt(chunk.values[i]);
+                bytes.appendByte(chunk.keys[i]);
+                bytes.appendInt(chunk.values[i]);
             }
         }
 
-        private void addPart(int from, int count, int m) {
+        private void addPart(History history, int from, int count, int m) {
             if (m >= count) {
                 if (from > 0) {
-                    out.appendInt(history.seal(from, count));
+                    bytes.appendInt(history.seal(from, count));
                 }
                 return;
             }
             int half = half(count);
             int middle = from + half;
             if (m <= half) {
-                addPart(from, half, m);
-                out.appendInt(history.seal(middle, count - half));
+                addPart(history, from, half, m);
+                bytes.appendInt(history.seal(middle, count - half));
             } else {
-                addPart(middle, count - half, m - half);
-                out.appendInt(history.seal(from, half));
+                addPart(history, middle, count - half, m - half);
+                bytes.appendInt(history.seal(from, half));
             }
         }
     }
@@ -585,8 +578,8 @@ public final class SealedBook {
         final Bytes bytes = new Bytes();
         int noted = 0;
 
+        /** Goes on behind the end too: so a missing byte is seen by where reading ends. */
         private int position = 0;
-        private boolean missing = false;
 
         private int levels = 0;
         private int root = 0;
@@ -602,14 +595,14 @@ public final class SealedBook {
         private int wholeSeal = 0;
 
         boolean takesProof(int digest, int n, int v, int key) {
-            startAt(0);
+            position = 0;
             int tree = 1 + 4 * nextByte();
-            startAt(tree);
-            if (!readTree(key) || missing || position != bytes.size) {
+            position = tree;
+            if (!readTree(key) || position != bytes.size) {
                 return false;
             }
-            // The leaf hangs on the root, so the way can only be read behind the tree.
-            startAt(1);
+            // The leaf hangs on the root, so the tree has to be read before the way.
+            position = 1;
             int seal = climb(leafOf(v, root), v, n);
             return position == tree && seal == digest;
         }
@@ -624,26 +617,17 @@ public final class SealedBook {
         }
 
         boolean takesGrowth(int one, int m, int other, int n) {
-            startAt(0);
+            position = 0;
             int end = 1 + 4 * nextByte();
             readPart(one, 0, n, m);
-            return !missing && position == end && end == bytes.size
+            return position == end && end == bytes.size
                     && olderSeal == one && wholeSeal == other;
-        }
-
-        private void startAt(int place) {
-            position = place;
-            missing = false;
         }
 
         private int nextByte() {
             int value = bytes.at(position);
             position++;
-            if (value == NONE) {
-                missing = true;
-                return 0;
-            }
-            return value;
+            return value == NONE ? 0 : value;
         }
 
         private int nextInt() {

@@ -14,9 +14,14 @@ public final class RandomRunsTest {
     private int v = 0;
     private int m = 1;
     private int key = 0;
+    private boolean growth = false;
+
+    /** How many keys of 48 have values from the start. */
+    private int dense;
 
     private RandomRunsTest(long seed) {
         random = new Random(seed);
+        dense = random.nextInt(49);
     }
 
     private int upTo(int most) {
@@ -57,6 +62,10 @@ public final class RandomRunsTest {
 
     /** One call on both, as its text and the two answers. */
     private String[] step() {
+        if (dense > 0) {
+            dense--;
+            return put(random.nextInt(48), someValue());
+        }
         switch (random.nextInt(20)) {
             case 0: case 1: case 2: case 3: return put(someKey(), someValue());
             case 4: case 5: return delete(someKey());
@@ -72,10 +81,10 @@ public final class RandomRunsTest {
             case 15: return proveGrowth(near(1 + random.nextInt(model.versions())));
             case 16: return proof(upTo(120) - 2);
             case 17: return seldom() ? take(random.nextInt(), upTo(5)) : carry(upTo(150), seldom() ? random.nextInt() : 0);
-            case 18: return random.nextInt(4) == 0
-                    ? both("shown()", "" + book.shown(), "" + model.shown())
+            case 18: return both("shown()", "" + book.shown(), "" + model.shown());
+            default: return growth ^ seldom()
+                    ? verifyGrowth(digestOf(m), near(m), digestOf(n), near(n))
                     : verify(digestOf(n), near(n), near(v), random.nextInt(3) == 0 ? someKey() : key);
-            default: return verifyGrowth(digestOf(m), near(m), digestOf(n), near(n));
         }
     }
 
@@ -134,6 +143,7 @@ public final class RandomRunsTest {
         n = count;
         v = version;
         key = k;
+        growth = false;
         return both("prove(" + count + ", " + version + ", " + k + ")",
                 Check.answer(() -> book.prove(count, version, k)),
                 Check.answer(() -> model.prove(count, version, k)));
@@ -143,6 +153,7 @@ public final class RandomRunsTest {
         int part = near(count > 0 ? random.nextInt(count) : 0);
         n = count;
         m = part;
+        growth = true;
         return both("proveGrowth(" + part + ", " + count + ")",
                 Check.answer(() -> book.proveGrowth(part, count)),
                 Check.answer(() -> model.proveGrowth(part, count)));

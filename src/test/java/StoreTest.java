@@ -188,6 +188,43 @@ public final class StoreTest {
         check.same("promise 9: with their value", book.get(3, 1), 10);
     }
 
+    /** A chunk of two items and one of one item, with one last key and one hash. */
+    private static void sameHashOtherLength() {
+        int start = Model.mix(6, 0);
+        int two = Model.mix(Model.mix(Model.mix(start, 1), 10), 4);
+        int one = Model.mix(start, 4);
+        int twin = two ^ 40 ^ one;
+        SealedBook book = new SealedBook();
+        book.put(1, 10);
+        book.put(4, 40);
+        book.commit();
+        book.delete(1);
+        book.put(4, twin);
+        book.commit();
+        check.same("promise 7: the roots are the same", book.root(2), book.root(1));
+        check.same("promise 7: another number of items", book.chunks(), 2);
+        check.same("promise 9: the one item", book.get(2, 4), twin);
+        check.noValue("promise 9: and no other", () -> book.get(2, 1));
+    }
+
+    /** As many chunks as 512 calls can well write: all trees but the first lack their record. */
+    private static void mostChunks() {
+        SealedBook book = new SealedBook();
+        putAll(book, 0);
+        book.commit();
+        int[] oneOfEach = {0, 4, 8, 12, 13, 16, 19, 26, 28, 31, 41, 42, 47};
+        for (int round = 1; round <= 30; round++) {
+            for (int key : oneOfEach) {
+                book.put(key, 1000 * round + key);
+            }
+            book.fail(18);
+            check.same("promise 6: the record of round " + round, book.commit(), NONE);
+            check.same("promise 7: the chunks of round " + round, book.chunks(), 17 + 17 * round);
+        }
+        check.same("promise 9: the version's value", book.get(1, 47), 47);
+        check.same("promise 9: the transaction's value", book.get(NONE, 47), 47);
+    }
+
     public static void main(String[] args) {
         numbers();
         overCommits();
@@ -196,6 +233,8 @@ public final class StoreTest {
         shared();
         levels();
         sameHash();
+        sameHashOtherLength();
+        mostChunks();
         check.finish();
     }
 }

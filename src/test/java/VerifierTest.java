@@ -154,11 +154,11 @@ public final class VerifierTest {
         x.put(1, 0x12345678);
         x.commit();
         int length = x.prove(2, 1, 1);
-        x.carry(length - 1, 0x18);
-        int hash = Model.mix(Model.mix(Model.mix(6, 0), 1), 0x12345678 ^ 0x18);
+        x.carry(length - 1, 0x799);
+        int hash = Model.mix(Model.mix(Model.mix(6, 0), 1), 0x12345678 ^ 0x99);
         int seal = Model.join(Model.leaf(0, 0), Model.leaf(1, hash));
         check.same("promise 17: another value", x.verify(seal, 2, 1, 1), 2);
-        check.same("promise 17: the byte at i is xored", x.shown(), 0x12345678 ^ 0x18);
+        check.same("promise 17: the byte at i is xored", x.shown(), 0x12345678 ^ 0x99);
         check.same("promise 17: a growth too", x.proveGrowth(1, 2), x.carry(0, 0));
         check.yes("promise 17: as it is", x.verifyGrowth(digest, 1, x.digest(2), 2));
     }
