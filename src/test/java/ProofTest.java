@@ -6,25 +6,39 @@ public final class ProofTest {
     private static final Check check = new Check();
     private static final int NONE = SealedBook.NONE;
 
-    /** A book and a model of 16 versions, with trees of none to three levels. */
-    private static final SealedBook book = new SealedBook();
-    private static final Model model = new Model();
+    private static final Model model = filledModel();
 
-    private static void fill(int add) {
+    private static int key(int v, int i) {
+        return (i * 7 + v * 5) % 48;
+    }
+
+    /** 16 versions, with trees of none to three levels; new for each proof, to keep to 512 calls. */
+    private static SealedBook filledBook() {
+        SealedBook book = new SealedBook();
         for (int v = 1; v < 16; v++) {
             for (int i = 0; i < v; i++) {
-                int key = (i * 7 + v * 5) % 48;
-                book.put(key, i * add);
-                model.put(key, i * add);
+                book.put(key(v, i), i * 0x01020304);
             }
-            if (v == 5) {
-                for (int key = 0; key < 48; key++) {
-                    book.delete(key);
-                    model.delete(key);
-                }
+            for (int key = 0; key < 48 && v == 5; key++) {
+                book.delete(key);
             }
-            check.same("commit", book.commit(), model.commit());
+            book.commit();
         }
+        return book;
+    }
+
+    private static Model filledModel() {
+        Model filled = new Model();
+        for (int v = 1; v < 16; v++) {
+            for (int i = 0; i < v; i++) {
+                filled.put(key(v, i), i * 0x01020304);
+            }
+            for (int key = 0; key < 48 && v == 5; key++) {
+                filled.delete(key);
+            }
+            filled.commit();
+        }
+        return filled;
     }
 
     static List<Integer> bytesOf(SealedBook from) {
@@ -35,7 +49,7 @@ public final class ProofTest {
         return bytes;
     }
 
-    private static void compare(String what, int length) {
+    private static void compare(String what, SealedBook book, int length) {
         for (int i = 0; i < length; i++) {
             check.same(what + " byte " + i, book.proof(i), model.proof(i));
         }
@@ -48,8 +62,9 @@ public final class ProofTest {
                 for (int key = 0; key < 48; key += n == 16 ? 1 : 13) {
                     String what = "promise 13: prove(" + n + ", " + v + ", " + key + ")";
                     int length = model.prove(n, v, key);
+                    SealedBook book = filledBook();
                     check.same(what, book.prove(n, v, key), length);
-                    compare(what, length);
+                    compare(what, book, length);
                 }
             }
         }
@@ -60,8 +75,9 @@ public final class ProofTest {
             for (int m = 1; m < n; m++) {
                 String what = "promise 14: proveGrowth(" + m + ", " + n + ")";
                 int length = model.proveGrowth(m, n);
+                SealedBook book = filledBook();
                 check.same(what, book.proveGrowth(m, n), length);
-                compare(what, length);
+                compare(what, book, length);
             }
         }
     }
@@ -137,7 +153,6 @@ public final class ProofTest {
     }
 
     public static void main(String[] args) {
-        fill(0x01020304);
         everyProof();
         everyGrowth();
         wholeTree();
