@@ -5,6 +5,23 @@ final class Check {
     private int wrong = 0;
     private int done = 0;
 
+    /** The sentence of the document that the checks are about, and how many there were before it. */
+    private String sentence = "";
+    private int doneBefore = -1;
+
+    /** The following checks are about these words, which stand in this section of the document. */
+    void sentence(String section, String words) {
+        requireChecks();
+        sentence = section + ", '" + words + "': ";
+        doneBefore = done;
+    }
+
+    private void requireChecks() {
+        if (done == doneBefore) {
+            tell("no check");
+        }
+    }
+
     void same(String what, long got, long want) {
         done++;
         if (got != want) {
@@ -16,7 +33,7 @@ final class Check {
     private void tell(String fault) {
         wrong++;
         if (wrong <= 50) {
-            System.out.println(fault);
+            System.out.println(sentence + fault);
         }
     }
 
@@ -64,6 +81,7 @@ final class Check {
     }
 
     void finish() {
+        requireChecks();
         System.out.println(wrong == 0 ? done + " checks, all as due" : wrong + " of " + done + " checks are not as due");
         if (wrong != 0 || done == 0) {
             System.exit(1);

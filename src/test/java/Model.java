@@ -390,10 +390,20 @@ final class Model {
         return new Node(level, keys, values, List.of());
     }
 
+    /** The digest of n versions by a root of version v and the ints of its way. */
+    static int digestBy(List<Integer> seals, int root, int n, int v) {
+        int seal = leaf(v, root);
+        int at = 0;
+        for (int[] part : way(0, n, v)) {
+            seal = part[0] < v ? join(seals.get(at), seal) : join(seal, seals.get(at));
+            at++;
+        }
+        return seal;
+    }
+
     /** The value that the bytes show, null for none. */
     private static Integer readProof(List<Integer> bytes, int digest, int n, int v, int key) {
-        List<int[]> way = way(0, n, v);
-        List<Integer> seals = cutInts(bytes, way.size());
+        List<Integer> seals = cutInts(bytes, way(0, n, v).size());
         int levels = cutByte(bytes);
         refuse(levels > 6);
         int root = 0;
@@ -409,16 +419,13 @@ final class Model {
             over = node;
         }
         refuse(!bytes.isEmpty());
-        int seal = leaf(v, root);
-        for (int i = 0; i < way.size(); i++) {
-            seal = way.get(i)[0] < v ? join(seals.get(i), seal) : join(seal, seals.get(i));
-        }
-        refuse(seal != digest);
+        refuse(digestBy(seals, root, n, v) != digest);
         int place = over == null ? -1 : over.keys().indexOf(key);
         return place < 0 ? null : over.values().get(place);
     }
 
-    private static int[] digests(List<Integer> seals, int one, int p, int q, int m) {
+    /** The digests of m and of n versions by a growth's ints, which are used up; one is the given digest of m. */
+    static int[] digests(List<Integer> seals, int one, int p, int q, int m) {
         if (m == q) {
             int seal = p == 0 ? one : seals.remove(0);
             return new int[] {seal, seal};
