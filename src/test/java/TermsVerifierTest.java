@@ -93,6 +93,10 @@ public final class TermsVerifierTest {
         List<Integer> many = Books.forged(Books.node(0, 7, 7));
         many.set(2, 255);
         check.same("255 and one there", Books.verify(many, Books.digestOver(Books.node(0, 7, 7)), 1, 0, 7), 0);
+        for (int count : new int[] {0, 49, 255}) {
+            check.same(count + " and none there, the root being 0",
+                    Books.verify(Books.bytes(0, 1, count), Model.leaf(0, 0), 1, 0, 7), 0);
+        }
     }
 
     private static void keysRise() {
@@ -106,6 +110,8 @@ public final class TermsVerifierTest {
             }
         }
         check.same("by one", forgery(5, withKeys(0, 9, 4, 5, 6)), 2);
+        check.same("an equal one that is not hashed", withOneMore(5, withKeys(0, 9, 4, 5)), 0);
+        check.same("a lower one that is not hashed", withOneMore(4, withKeys(0, 9, 3, 5)), 0);
         Model.Node low = withKeys(0, 9, 4, 5);
         check.same("above another", forgery(5, withKeys(1, low.hash(), 5, 7, 9), low), 2);
         check.same("above another, equal", forgery(5, withKeys(1, low.hash(), 5, 5), low), 0);
@@ -126,8 +132,18 @@ public final class TermsVerifierTest {
         return Books.node(level, items);
     }
 
+    /** The answer when the one chunk has an item of this key more than the digest is over. */
+    private static int withOneMore(int key, Model.Node node) {
+        List<Integer> bytes = Books.forged(node);
+        bytes.set(2, bytes.get(2) + 1);
+        bytes.addAll(Books.bytes(key, 0, 0, 0, 9));
+        return Books.verify(bytes, Books.digestOver(node), 1, 0, 5);
+    }
+
     private static void keysAreKeys() {
         check.sentence("Terms", "and are 0 .. 47");
+        check.same("48 that is not hashed", withOneMore(48, withKeys(0, 9, 4, 5)), 0);
+        check.same("255 that is not hashed", withOneMore(255, withKeys(0, 9, 4, 5)), 0);
         check.same("0", forgery(0, withKeys(0, 9, 0)), 2);
         check.same("47", forgery(47, withKeys(0, 9, 47)), 2);
         for (int bad : new int[] {48, 49, 127, 128, 255}) {
