@@ -296,6 +296,27 @@ public final class TermsTreeTest {
         check.same("bytes of a proof there", book.prove(1, 0, 7), 2);
     }
 
+    /** With a value that makes the hash 0: what has items has a chunk and levels all the same. */
+    private static void itemsWithRoot0() {
+        check.sentence("Terms", "without items the root is 0, and there is no chunk");
+        int value = Model.mix(Model.mix(6, 0), 0);
+        SealedBook book = Books.with(0, value);
+        check.same("root of an item", book.root(1), 0);
+        check.same("its chunk", book.chunks(), 1);
+        check.same("its value", book.get(1, 0), value);
+        check.same("bytes of its proof", book.prove(2, 1, 0), 12);
+        check.same("levels", book.proof(5), 1);
+        book.carry(-1, 0);
+        check.same("taken", book.verify(book.digest(2), 2, 1, 0), 2);
+        check.same("shown", book.shown(), value);
+        book.rollback();
+        check.same("in the transaction", book.get(NONE, 0), value);
+        book.put(47, 1);
+        book.commit();
+        check.same("below other chunks", book.get(2, 0), value);
+        check.same("five chunks, one of them known", book.chunks(), 5);
+    }
+
     public static void main(String[] args) {
         everyVersionStays();
         versionsShare();
@@ -313,6 +334,7 @@ public final class TermsTreeTest {
         nextLevel();
         root();
         noItems();
+        itemsWithRoot0();
         check.finish();
     }
 }

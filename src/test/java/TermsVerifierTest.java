@@ -253,6 +253,10 @@ public final class TermsVerifierTest {
                 digest(n, v);
             }
         }
+        List<Integer> zero = Books.ints(Model.mix(8, Model.leaf(0, 0)));
+        zero.add(0);
+        check.same("a digest of 0", Books.verify(zero, 0, 2, 0, 9), 1);
+        check.same("not a digest of 0", Books.verify(zero, 1, 2, 0, 9), 0);
     }
 
     private static void digest(int n, int v) {
@@ -344,6 +348,7 @@ public final class TermsVerifierTest {
             check.no("3 of 4, not the given one", Books.grows(Books.ints(7, 8, 9), one, 3,
                     Model.join(9, Model.join(one, 8)), 4));
         }
+        check.yes("another one of 0", Books.grows(Books.ints(Model.mix(8, 5)), 5, 1, 0, 2));
         check.yes("3 of 4", Books.grows(Books.ints(7, 8, 9), Model.join(9, 7), 3, Model.join(9, Model.join(7, 8)), 4));
     }
 
