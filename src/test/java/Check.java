@@ -29,6 +29,13 @@ final class Check {
         }
     }
 
+    void same(String what, String got, String want) {
+        done++;
+        if (!got.equals(want)) {
+            tell(what + " answered " + got + ", due is " + want);
+        }
+    }
+
     /** The first ones are enough to see what is wrong. */
     private void tell(String fault) {
         wrong++;
