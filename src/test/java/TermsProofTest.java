@@ -198,6 +198,29 @@ public final class TermsProofTest {
         }
     }
 
+    /** So many versions like those of Books.ofVersions(16), and then others. */
+    private static SealedBook startingLike(int same, int count) {
+        SealedBook book = new SealedBook();
+        for (int v = 1; v < count; v++) {
+            book.put(3 * v, v < same ? v * 1001 : -v);
+            book.commit();
+        }
+        return book;
+    }
+
+    private static void anotherDigest() {
+        check.sentence("Terms", "A GROWTH (m, n), 0 < m < n, that the first m of n versions are those of another digest");
+        for (int m = 2; m < 16; m++) {
+            SealedBook book = Books.ofVersions(16);
+            book.proveGrowth(m, 16);
+            List<Integer> bytes = Books.proofOf(book);
+            int newer = book.digest(16);
+            check.yes("the same " + m, Books.grows(bytes, startingLike(m, m + 1).digest(m), m, newer, 16));
+            check.no("not the last of " + m, Books.grows(bytes, startingLike(m - 1, m + 1).digest(m), m, newer, 16));
+            check.no("none but the first of " + m, Books.grows(bytes, startingLike(1, m + 1).digest(m), m, newer, 16));
+        }
+    }
+
     private static void growth() {
         check.sentence("Terms", "A GROWTH (m, n), 0 < m < n");
         SealedBook book = Books.ofVersions(4);
@@ -226,6 +249,7 @@ public final class TermsProofTest {
         highestFirst();
         wholeTop();
         chunkBelow();
+        anotherDigest();
         growth();
         check.finish();
     }

@@ -11,6 +11,70 @@ public final class TermsTreeTest {
     /** By the document's formula, worked out apart from this project's Java. */
     private static final List<Integer> ENDS_AT_0 = List.of(0, 4, 8, 12, 13, 16, 19, 26, 28, 31, 41, 42);
 
+    /** Whoever holds the digest has a verifier without a book. */
+    private static void oneNumber() {
+        check.sentence("What it is", "A book of values by keys that can be checked by whoever holds one number");
+        int digest = Books.ofVersions(6).digest(6);
+        for (int v = 0; v < 6; v++) {
+            for (int key = 0; key < 48; key++) {
+                SealedBook book = Books.ofVersions(6);
+                book.prove(6, v, key);
+                SealedBook verifier = Books.holding(Books.proofOf(book));
+                boolean there = key % 3 == 0 && key > 0 && key <= 3 * v;
+                check.same("key " + key + " in " + v, verifier.verify(digest, 6, v, key), there ? 2 : 1);
+                check.same("its value", verifier.shown(), there ? key / 3 * 1001 : 0);
+            }
+        }
+    }
+
+    private static void transactions() {
+        check.sentence("What it is", "changes come in transactions");
+        SealedBook book = Books.with(1, 10, 2, 20);
+        int root = book.root(1);
+        int digest = book.digest(2);
+        book.put(1, 11);
+        book.put(3, 30);
+        book.delete(2);
+        check.same("the version before the commit", book.range(1, 0, 47), 2);
+        check.same("its value", book.get(1, 1), 10);
+        check.same("its root", book.root(1), root);
+        check.same("the digest", book.digest(2), digest);
+        check.same("commit", book.commit(), 2);
+        check.same("all changes came at once", book.range(2, 0, 47), 2);
+        check.same("the changed one", book.get(2, 1), 11);
+        check.same("the new one", book.get(2, 3), 30);
+        check.noValue("the deleted one", () -> book.get(2, 2));
+    }
+
+    /** One value in one version is another than that of Books.ofVersions(6). */
+    private static SealedBook changedIn(int changed) {
+        SealedBook book = new SealedBook();
+        for (int v = 1; v < 6; v++) {
+            book.put(3 * v, v * 1001 + (v == changed ? 1 : 0));
+            if (v == changed + 1) {
+                book.put(3 * changed, changed * 1001);
+            }
+            book.commit();
+        }
+        return book;
+    }
+
+    private static void treesOfHashes() {
+        check.sentence("What it is", "a tree of hashes stands over each version and another one over all of them");
+        SealedBook same = changedIn(9);
+        SealedBook book = Books.ofVersions(6);
+        check.same("the same values", same.digest(6), book.digest(6));
+        for (int changed = 1; changed < 6; changed++) {
+            SealedBook other = changedIn(changed);
+            for (int v = 0; v < 6; v++) {
+                check.same("the same root of " + v + ", changed in " + changed,
+                        other.root(v) == book.root(v) ? 1 : 0, v == changed ? 0 : 1);
+                check.same("the same digest of " + (v + 1) + ", changed in " + changed,
+                        other.digest(v + 1) == book.digest(v + 1) ? 1 : 0, v >= changed ? 0 : 1);
+            }
+        }
+    }
+
     private static void everyVersionStays() {
         check.sentence("What it is", "every version stays");
         SealedBook book = new SealedBook();
@@ -180,6 +244,11 @@ public final class TermsTreeTest {
     }
 
     private static void versions() {
+        check.sentence("Terms", "A VERSION is a map from keys to values");
+        SealedBook map = Books.with(9, 1, 9, 2, 8, 2);
+        check.same("one value for a key", map.get(1, 9), 2);
+        check.same("one value for two keys", map.get(1, 8), 2);
+        check.same("two keys", map.range(1, 0, 47), 2);
         check.sentence("Terms", "version 0 is empty");
         SealedBook book = new SealedBook();
         check.same("its keys", book.range(0, 0, 47), 0);
@@ -318,6 +387,9 @@ public final class TermsTreeTest {
     }
 
     public static void main(String[] args) {
+        oneNumber();
+        transactions();
+        treesOfHashes();
         everyVersionStays();
         versionsShare();
         anyBytes();

@@ -177,7 +177,8 @@ public final class VerifierTest {
     }
 
     private static void honest() {
-        check.sentence("Promise 18", "0 refused, 1 taken: there is no value, 2 taken: there is one");
+        check.sentence("Promise 18", "The verifier, holding digest of n versions, takes its bytes for a proof (n, v, key):"
+                + " 0 refused, 1 taken: there is no value, 2 taken: there is one.");
         for (int n = 1; n <= 16; n++) {
             for (int v = 0; v < n; v++) {
                 for (int key = (n + v) % 5; key < 48; key += 5) {
